@@ -344,6 +344,7 @@ public final class SharedNights {
                 || !night.hasSlot(to) || from > to || !within(what, 0, 1)) {
             return OUTSIDE;
         }
+        bestNight.refresh();
         bestNight.seekBegin(target, instrument, alertStep, from, to);
         return what == 0 ? bestNight.foundBegin : bestNight.foundLoss;
     }
@@ -421,7 +422,7 @@ public final class SharedNights {
 
     /** The SLOTS from .. from + length - 1, by bits. */
     private static int run(int from, int length) {
-        return (1 << length) - 1 << from;
+        return ((1 << length) - 1) << from;
     }
 
     private static int commonDivisor(int a, int b) {
@@ -662,8 +663,9 @@ public final class SharedNights {
 
         boolean fitsAlone(int sky, Target target, Step step, int slot) {
             int seen = skies[sky][slot];
-            return seen <= step.seeingMost && seen != SHUT && isVisible(target, slot)
-                    && airOf(target, slot) <= step.airMost && !(step.dark && isBright(target, slot));
+            int air = airOf(target, slot);
+            return seen <= step.seeingMost && seen != SHUT && air <= target.reach && air <= step.airMost
+                    && !(step.dark && isBright(target, slot));
         }
 
         /** The SLOTS in which a STEP can begin so that it FITS by FORECAST, by bits. */
@@ -1044,7 +1046,6 @@ public final class SharedNights {
 
         /** BEST BEGIN of an ALERT and its LOSS, to be found in foundBegin and foundLoss. */
         void seekBegin(int target, int instrument, Step step, int from, int to) {
-            refresh();
             foundBegin = NONE;
             foundLoss = NONE;
             int fitting = night.fittingBegins(night.targets[target], step);
@@ -1274,7 +1275,12 @@ public final class SharedNights {
             instrumentIn = 0;
             going = NONE;
             for (int slot = 0; slot < n && slot < night.slotCount; slot++) {
-                entries[slot] = going == NONE ? beginIn(rule, sky, slot) : goOnIn(sky, slot);
+                if (going == NONE) {
+                    breakLateChains(slot);
+                    entries[slot] = beginIn(sky, slot, choose(rule, sky, slot));
+                } else {
+                    entries[slot] = goOnIn(sky, slot);
+                }
             }
         }
 
@@ -1294,9 +1300,8 @@ public final class SharedNights {
             return entry >= LOG_CHANGE ? NONE : entry % LOG_SPOILT;
         }
 
-        private int beginIn(int rule, int sky, int slot) {
-            breakLateChains(slot);
-            int plan = choose(rule, sky, slot);
+        /** What a SLOT is in which nothing is going on, if the RULE takes this PLAN (or NONE). */
+        private int beginIn(int sky, int slot, int plan) {
             if (plan == NONE) {
                 return night.skies[sky][slot] == SHUT ? LOG_SHUT : LOG_IDLE;
             }
@@ -1312,7 +1317,7 @@ public final class SharedNights {
 
         private int goOnIn(int sky, int slot) {
             int plan = going;
-            if (fitsNow(plan, sky, slot)) {
+            if (night.fitsAlone(sky, targetOf(plan), stepOf(plan), slot)) {
                 exposeIn(slot);
                 return plan;
             }
@@ -1357,10 +1362,6 @@ public final class SharedNights {
             return night.targets[book.plans[plan].targetNumber];
         }
 
-        private boolean fitsNow(int plan, int sky, int slot) {
-            return night.fitsAlone(sky, targetOf(plan), stepOf(plan), slot);
-        }
-
         private boolean mayBegin(int plan, int sky, int slot) {
             if (!isWaiting(plan)) {
                 return false;
@@ -1368,7 +1369,8 @@ public final class SharedNights {
             Step step = stepOf(plan);
             // Chains that waited too long are broken by now, so only the least wait is looked at.
             boolean waited = states[plan] == 0 || slot - stepEnds[plan] >= step.waitLeast;
-            return waited && slot + step.slotsLong <= night.slotCount && fitsNow(plan, sky, slot);
+            return waited && slot + step.slotsLong <= night.slotCount
+                    && night.fitsAlone(sky, targetOf(plan), step, slot);
         }
 
         private int choose(int rule, int sky, int slot) {

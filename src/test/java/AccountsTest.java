@@ -162,6 +162,10 @@ public final class AccountsTest {
         x.share(0, 20);
         due.is("debt of a great SHARE", x.debt(0), 20 * 3 - 24 * 2);
         due.is("NEXT LAND by its SHARE", x.next(), 0);
+        x.share(0, 1);
+        x.share(1, 9);
+        due.is("debt of LAND 1", x.debt(1), 9 * 3 - 13);
+        due.is("NEXT LAND 1", x.next(), 1);
         due.is("debt of LAND 4", x.debt(4), Integer.MIN_VALUE);
         due.is("debt of LAND -1", x.debt(-1), Integer.MIN_VALUE);
     }

@@ -66,6 +66,8 @@ public final class AlertTest {
         alert(x, 0, 3180, 0, 5, 0, 7);
         alert(x, 0, 3180, 1, 2, 1, 9);
         alert(x, 1, 1180, 2, 3, 2, 9);
+        SharedNights y = night(4, simple(0, 1, 2));
+        alert(y, 0, 2180, 1, 3, 2, 0);
     }
 
     private static void fitting() {

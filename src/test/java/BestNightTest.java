@@ -64,6 +64,7 @@ public final class BestNightTest {
         String step = "expose 1 seeing 1 air 8";
         SharedNights x = night(4, "land 0 with 0 at 0 worth 7: " + step + ", wait 1 to 2, " + step,
                 "land 0 with 0 at 0 worth 7: " + step + ", wait 0 to 1, " + step + ", wait 0 to 1, " + step);
+        due.is("a PLACEMENT asked for at once", x.placement(0, 1), 0b1001);
         placements(x, 0, 0b0101, 0b1001, 0b1010);
         placements(x, 1, 0b0111, 0b1011, 0b1101, 0b1110);
     }
@@ -143,6 +144,10 @@ public final class BestNightTest {
         SharedNights y = night(4, simple(0, 2, 2), simple(0, 3, 1), simple(0, 5, 4));
         due.is("three SLOTS of two PLANS", y.best(1), 0b111);
         placed(y, 0, 2, -1);
+        SharedNights z = night(4, "land 0 with 0 at 0 worth 5: expose 2 seeing 1 air 8, wait 0 to 0, expose 1 seeing 1 air 8",
+                simple(1, 5, 2));
+        due.is("SLOTS of all STEPS", z.best(1), 0b11);
+        placed(z, -1, 0);
     }
 
     private static void theFirst() {
@@ -166,6 +171,18 @@ public final class BestNightTest {
         due.is("WORTH", x.best(0), 7);
         placed(x, 1, -1, 0);
         due.is("SLOTS", x.best(1), 15);
+        // PLAN 1 and PLAN 2 hinder one another, and with PLAN 1 PLAN 0 would be later in the NIGHT.
+        SharedNights y = new SharedNights();
+        y.slots(4);
+        y.target(4, 8, 0);
+        y.target(0, 0, 0);
+        y.target(1, 0, 0);
+        Glass.plan(y, simple(1, 5, 1));
+        Glass.plan(y, "land 0 with 0 at 1 worth 5: expose 1 seeing 1 air 8");
+        Glass.plan(y, "land 0 with 1 at 2 worth 5: expose 1 seeing 1 air 8");
+        placed(y, 0, -1, 0);
+        due.is("PRICE of PLAN 1", y.price(1), 6);
+        due.is("PRICE of PLAN 2", y.price(2), 5);
     }
 
     private static void price() {
@@ -203,6 +220,21 @@ public final class BestNightTest {
         due.is("SLOT -1", x.empty(-1), -2);
         SharedNights y = night(4, simple(0, 9, 3));
         due.is("PLACEMENTS of a PLAN that is in it", y.empty(3), 1);
+        SharedNights z = night(4, simple(1, 5, 4), simple(0, 5, 1), simple(0, 6, 1));
+        due.is("two PLANS are in it", z.best(1), 0b11);
+        due.is("PLAN 0 alone would have the SLOT", z.empty(3), 2);
+        SharedNights w = new SharedNights();
+        w.slots(6);
+        w.target(0, 8, 0);
+        w.target(2, 0, 0);
+        w.target(5, 0, 0);
+        Glass.plan(w, "land 0 with 0 at 1 worth 9: expose 1 seeing 1 air 8");
+        Glass.plan(w, "land 0 with 0 at 2 worth 9: expose 1 seeing 1 air 8");
+        Glass.plan(w, "land 0 with 1 at 0 worth 1: expose 2 seeing 1 air 3");
+        due.is("BEST NIGHT of three", w.best(1), 0b100100);
+        due.is("hindered by the first alone", w.empty(0), 2);
+        due.is("hindered by each", w.empty(3), 2);
+        due.is("too much AIR", w.empty(4), 1);
     }
 
     /** What BEST NIGHT depends on is looked at anew behind each change. */

@@ -15,6 +15,7 @@ public final class TextsTest {
         tokens();
         numbers();
         ends();
+        readAnew();
         plan();
         drop();
         told();
@@ -100,6 +101,10 @@ public final class TextsTest {
         due.is("a hundred digits", Glass.fault("land " + "0".repeat(100), 1), 5);
         due.is("a word too long", Glass.fault("landx 0", 1), 0);
         due.is("a word too short", Glass.fault("lan 0", 1), 0);
+        due.is("a word but for its begin", Glass.fault("xand 0", 1), 0);
+        due.is("a word but for its end", Glass.fault("lanx 0", 1), 0);
+        due.is("the last letter behind a word", Glass.fault("landz 0", 1), 0);
+        due.is("the first letter behind a word", Glass.fault("landa 0", 1), 0);
         due.is("a great letter", Glass.fault("Land 0", 1), 0);
         due.is("a byte 0", Glass.fault("\u0000", 1), 0);
         due.is("a tab", Glass.fault("land\t0", 1), 4);
@@ -160,6 +165,25 @@ public final class TextsTest {
         due.is("a wait without a comma", Glass.fault(ONE + " wait 0 to 1", 1), ONE.length() + 1);
     }
 
+    /** Nothing of a text that was read is left in the next one. */
+    private static void readAnew() {
+        SharedNights x = Glass.withTargets(1);
+        Glass.write(x, ONE);
+        due.is("a FAULT behind a PLAN", x.write(33, 1) - x.fault(), 1);
+        due.is("stands at it", x.stands(), 28);
+        x.erase();
+        Glass.write(x, THREE.replace("air 8", "air 8 dark"));
+        due.is("no FAULT any more", x.fault(), -1);
+        due.is("nothing stands", x.stands(), 0);
+        x.erase();
+        due.is("the next text", Glass.plan(x, THREE), 0);
+        due.is("STEP 0 is not dark", x.told(0, 13), 0);
+        due.is("STEP 1 is not dark", x.told(0, 23), 0);
+        due.is("STEP 2 is not dark", x.told(0, 33), 0);
+        due.is("a text of one STEP", Glass.plan(x, ONE), 1);
+        due.is("it has one", x.told(1, 4), 1);
+    }
+
     private static void plan() {
         SharedNights x = Glass.withTargets(1);
         due.is("an empty text is no PLAN", x.plan(), -4);
@@ -199,6 +223,10 @@ public final class TextsTest {
         due.is("a PLAN more", Glass.plan(x, ONE), 1);
         due.is("it is as told", x.told(1, 3), 5);
         due.is("the one left stays", x.told(0, 3), 12);
+        Glass.write(x, ONE.replace("worth 5", "worth 77"));
+        due.is("a text is read", x.fault(), -1);
+        due.is("reading changes no PLAN", x.told(0, 3), 12);
+        due.is("reading changes no other PLAN", x.told(1, 3), 5);
     }
 
     private static void told() {

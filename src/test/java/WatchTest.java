@@ -18,6 +18,7 @@ public final class WatchTest {
         greatestWorth();
         leastAir();
         firstToSet();
+        firstToSetLater();
         moonAndAir();
         worlds();
         bestRule();
@@ -104,6 +105,10 @@ public final class WatchTest {
         log(x, 0, 21, 0, 10, 22);
         x.seeing(1, 3, 4);
         log(x, 0, 21, 0, 10, 21);
+        SharedNights y = night(4, "land 0 with 0 at 0 worth 1: expose 1 seeing 0 air 8",
+                "land 0 with 0 at 0 worth 9: expose 2 seeing 3 air 8");
+        y.seeing(1, 1, 4);
+        log(y, 0, 1, 11, 22, 22);
     }
 
     private static void slotsLeft() {
@@ -172,6 +177,40 @@ public final class WatchTest {
         log(x, 2, 2, 1, 0, 22);
         x.close(2);
         due.is("all are done", x.count(3), 0);
+    }
+
+    /** RULE 2 a NIGHT later, with TARGETS that set with the NIGHT and a SLOT ahead of its end. */
+    private static void firstToSetLater() {
+        SharedNights x = new SharedNights();
+        x.slots(4);
+        x.target(4, 0, 0);
+        x.target(1, 2, 0);
+        x.target(0, 3, 0);
+        x.close(0);
+        Glass.plan(x, "land 0 with 0 at 0 worth 1: " + STEP);
+        Glass.plan(x, "land 0 with 0 at 1 worth 1: " + STEP);
+        Glass.plan(x, "land 0 with 0 at 2 worth 1: " + STEP);
+        // VISIBLE: in SLOT 3, in 0 .. 2, in 0 .. 2
+        log(x, 2, 1, 2, 22, 0);
+        SharedNights y = new SharedNights();
+        y.slots(4);
+        y.target(2, 1, 0);
+        y.target(1, 1, 0);
+        Glass.plan(y, "land 0 with 0 at 0 worth 1: " + STEP);
+        Glass.plan(y, "land 0 with 0 at 1 worth 1: " + STEP);
+        // Last VISIBLE in SLOT 3 and in SLOT 2.
+        y.seeing(1, 0, 3);
+        log(y, 2, 22, 1, 0, 22);
+        // A NIGHT later PLAN 0 is VISIBLE in 1 .. 3, PLAN 1 in 0 .. 2.
+        SharedNights z = new SharedNights();
+        z.slots(4);
+        z.target(3, 1, 0);
+        z.target(2, 1, 0);
+        z.close(0);
+        Glass.plan(z, "land 0 with 0 at 0 worth 1: " + STEP);
+        Glass.plan(z, "land 0 with 0 at 1 worth 1: " + STEP);
+        z.seeing(1, 0, 3);
+        log(z, 2, 22, 1, 0, 22);
     }
 
     private static void moonAndAir() {

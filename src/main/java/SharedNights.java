@@ -421,7 +421,7 @@ public final class SharedNights {
     }
 
     /** The SLOTS from .. from + length - 1, by bits. */
-    private static int run(int from, int length) {
+    private static int slotBits(int from, int length) {
         return ((1 << length) - 1) << from;
     }
 
@@ -1051,7 +1051,7 @@ public final class SharedNights {
             int fitting = night.fittingBegins(night.targets[target], step);
             for (int begin = from; begin <= to && foundLoss != 0; begin++) {
                 if (hasBit(fitting, begin)) {
-                    int mask = run(begin, step.slotsLong);
+                    int mask = slotBits(begin, step.slotsLong);
                     int loss = bestWorth() - mostBeside(takenBy(mask, instrument));
                     if (foundBegin == NONE || loss < foundLoss) {
                         foundBegin = begin;
@@ -1109,7 +1109,7 @@ public final class SharedNights {
                     boolean more = step + 1 < placed.stepCount;
                     int least = more ? placed.steps[step + 1].waitLeast : 0;
                     int most = more ? placed.steps[step + 1].waitMost : 0;
-                    gatherSteps(plan, step + 1, end + least, end + most, mask | run(begin, length));
+                    gatherSteps(plan, step + 1, end + least, end + most, mask | slotBits(begin, length));
                 }
             }
         }
@@ -1122,14 +1122,17 @@ public final class SharedNights {
             }
         }
 
-        /** Adds the set's first PLAN to what is known of the others. */
+        /** Adds the set's first PLAN to what is known of the others; the empty set has nothing to add. */
         private void weigh(int set) {
-            if (set == 0) {
+            int first = 0;
+            while (first < book.count && !hasBit(set, first)) {
+                first++;
+            }
+            if (first >= book.count) {
                 return;
             }
-            int others = set & set - 1;
-            int first = Integer.numberOfTrailingZeros(set);
             Plan added = book.plans[first];
+            int others = set & ~(1 << first);
             worths[set] = worths[others] + added.worth;
             sizes[set] = sizes[others] + added.slotsInAll();
             usable[set] = usable[others] | (long) reached[first] << ROW_BITS * added.instrument;
@@ -1230,10 +1233,8 @@ public final class SharedNights {
                 return sizes[set] < sizes[other];
             }
             for (int p = 0; p < book.count; p++) {
-                int place = hasBit(set, p) ? firsts[set][p] : ABSENT;
-                int otherPlace = hasBit(other, p) ? firsts[other][p] : ABSENT;
-                if (place != otherPlace) {
-                    return place < otherPlace;
+                if (firsts[set][p] != firsts[other][p]) {
+                    return firsts[set][p] < firsts[other][p];
                 }
             }
             return false;

@@ -48,6 +48,31 @@ final class Glass {
         return x;
     }
 
+    /** An object with this many SLOTS, TARGET 0 that is VISIBLE in each of them (REGION 0), and these PLANS. */
+    static SharedNights night(int slots, String... plans) {
+        SharedNights x = new SharedNights();
+        x.slots(slots);
+        x.target(5, 8, 0);
+        for (String plan : plans) {
+            plan(x, plan);
+        }
+        return x;
+    }
+
+    /** A text with a PLAN of LAND 0. */
+    static String told(int instrument, int target, int worth, String steps) {
+        return "land 0 with " + instrument + " at " + target + " worth " + worth + " : " + steps;
+    }
+
+    static String step(int k) {
+        return "expose " + k + " seeing 3 air 8";
+    }
+
+    /** One beyond each bound, and as far out as can be. */
+    static int[] beyond(int least, int most) {
+        return new int[] {least - 1, most + 1, Integer.MIN_VALUE, Integer.MAX_VALUE};
+    }
+
     /** That a call is refused with this answer, and that nothing is other than without it. */
     static void refused(Due due, String call, Call make, Call refused, int answer) {
         SharedNights untouched = new SharedNights();

@@ -160,6 +160,11 @@ public final class AlertEdgesTest {
         alert("3 in SLOT 4", y, 0, 1380, 3, 4, 4, 3);
         alert("7 in SLOT 1", y, 0, 1380, 0, 1, 1, 7);
         alert("9 in SLOT 0", y, 0, 1380, 0, 0, 0, 9);
+        // A LOSS of 1 is not the least: behind it there is none.
+        y.worth(2, 1);
+        y.drop(4);
+        alert("1 in SLOT 2, 0 in SLOT 4", y, 0, 1380, 0, 4, 4, 0);
+        alert("1 in SLOT 2", y, 0, 1380, 0, 3, 2, 1);
     }
 
     // ---- the promise

@@ -25,6 +25,8 @@ public final class BestNightEdgesTest {
         theFirst();
         noneBehindAll();
         byPlan1AndSoOn();
+        firstPlacementAheadOfLeastPlans();
+        planInAheadOfOthers();
         noPlans();
         fivePlans();
         priceLeastAndMost();
@@ -33,7 +35,9 @@ public final class BestNightEdgesTest {
         priceOfOwnWorth();
         empty1();
         empty2();
+        emptyByEachPlan();
         empty3();
+        askedAheadAndBehind();
         placementsNoneAndMost();
         placementRefused();
         bestRefused();
@@ -282,7 +286,7 @@ public final class BestNightEdgesTest {
     }
 
     private static void oneOfAPlanAtMost() {
-        due.sentence("Terms", "A SET of PLACEMENTS, one of a PLAN at most");
+        due.sentence("Terms", "A SET of PLACEMENTS, one of a PLAN at most, of which all GO TOGETHER, is WORTH what its PLANS are together.");
         SharedNights x = Glass.night(12, Glass.told(0, 0, 7, ALL));
         due.is("twelve PLACEMENTS", x.placements(0), 12);
         due.is("WORTH of one", x.best(0), 7);
@@ -366,6 +370,59 @@ public final class BestNightEdgesTest {
         SharedNights y = three(4, 1, 1, 1, 1, 1, 1);
         Glass.plan(y, Glass.told(0, 0, 1, ALL));
         placed("four in four SLOTS", y, 0, 1, 2, 3);
+    }
+
+    /**
+     * So many PLANS stand aside in the last SLOTS. The next one can be in SLOTS 0 .. 3; with the one behind it, which has SLOT 0, it
+     * must be later than with the last one, which has SLOT 1 and its own INSTRUMENT.
+     */
+    private static void firstPlacementAheadOfLeastPlans() {
+        due.sentence("Terms", "of several the first (by PLAN 0: its PLACEMENTS as numbered, none behind all; then by PLAN 1, and so on)");
+        for (int aside = 0; aside <= 2; aside++) {
+            SharedNights x = new SharedNights();
+            x.slots(12);
+            int[] places = new int[aside + 3];
+            for (int p = 0; p < aside; p++) {
+                x.target(11 - p, 0, 0);
+                Glass.plan(x, Glass.told(0, p, 5, ALL));
+            }
+            x.target(0, 3, 0);
+            x.target(0, 0, 0);
+            x.target(1, 0, 0);
+            Glass.plan(x, Glass.told(1, aside, 5, ALL));
+            Glass.plan(x, Glass.told(0, aside + 1, 5, ALL));
+            Glass.plan(x, Glass.told(1, aside + 2, 5, ALL));
+            places[aside + 1] = -1;
+            due.is("WORTH", x.best(0), 5 * (aside + 2));
+            placed("decided by PLAN " + aside, x, places);
+        }
+    }
+
+    /** So many PLANS stand aside. Of the four behind them the first and the last go together, or the two in the midst. */
+    private static void planInAheadOfOthers() {
+        due.sentence("Terms", "none behind all; then by PLAN 1, and so on");
+        for (int aside = 0; aside <= 1; aside++) {
+            SharedNights x = new SharedNights();
+            x.slots(12);
+            if (aside == 1) {
+                x.target(11, 0, 0);
+                Glass.plan(x, Glass.told(0, 0, 5, ALL));
+            }
+            x.target(2, 0, 0);
+            x.target(0, 1, 0);
+            x.target(3, 0, 0);
+            x.target(2, 2, 0);
+            Glass.plan(x, Glass.told(0, aside, 5, ALL));
+            Glass.plan(x, Glass.told(1, aside + 1, 5, Glass.step(2)));
+            Glass.plan(x, Glass.told(1, aside + 2, 5, ALL));
+            Glass.plan(x, Glass.told(0, aside + 3, 5, ALL + ", wait 3 to 3, " + ALL));
+            due.is("two of the four", x.best(0), 10 + 5 * aside);
+            int[] places = {0, -1, -1, 0, 0};
+            int[] later = {0, 0, -1, -1, 0};
+            placed("the first and the last, aside " + aside, x, aside == 0 ? java.util.Arrays.copyOf(places, 4) : later);
+            x.worth(aside + 1, 6);
+            due.is("the two in the midst are worth more", x.placed(aside + 1), 0);
+        }
     }
 
     private static void noPlans() {
@@ -493,6 +550,61 @@ public final class BestNightEdgesTest {
             due.is("hindered by one", y.empty(3), 2);
             due.is("a SLOT beside", y.empty(5 - 5 * other), 1);
         }
+    }
+
+    /** Each PLAN of five in turn is the one that is not in BEST NIGHT and would have SLOT 6. */
+    private static void emptyByEachPlan() {
+        due.sentence("Terms", "1 no PLACEMENT of any PLAN that is not in it has the SLOT; 2 one has");
+        for (int out = 0; out < 5; out++) {
+            SharedNights x = new SharedNights();
+            x.slots(12);
+            int[] slots = {0, 2, 4, 11};
+            int in = 0;
+            for (int p = 0; p < 5; p++) {
+                x.target(p == out ? 5 : slots[in], p == out ? 1 : 0, 0);
+                // From SLOT 4 to 6, hindered in SLOT 4 by another INSTRUMENT.
+                Glass.plan(x, Glass.told(p == out ? 1 : 0, p, p == out ? 1 : 9, p == out ? Glass.step(3) : ALL));
+                in += p == out ? 0 : 1;
+            }
+            due.is("PLAN " + out + " is not in it", x.placed(out), -1);
+            due.is("BEST NIGHT", x.best(1), 0b100000010101);
+            int[] why = {0, 1, 0, 1, 0, 2, 2, 1, 1, 1, 1, 0};
+            for (int slot = 0; slot < 12; slot++) {
+                due.is("SLOT " + slot + ", PLAN " + out + " is out", x.empty(slot), why[slot]);
+            }
+        }
+    }
+
+    /** What was asked ahead of a change is no hindrance: each change is seen behind it. */
+    private static void askedAheadAndBehind() {
+        due.sentence("Terms", "so that all FIT by FORECAST");
+        String dark = "expose 4 seeing 1 air 8 dark";
+        SharedNights x = Glass.night(4, Glass.told(0, 0, 5, dark));
+        due.is("at first", x.best(0), 5);
+        due.is("moon", x.moon(0, 3, 3) + x.best(0), 1);
+        due.is("moon in another REGION", x.moon(1, 0, 3) + x.best(0), 1 + 5);
+        due.is("seeing", x.seeing(0, 0, 2) + x.best(0), 1);
+        due.is("seeing anew", x.seeing(0, 0, 0) + x.best(0), 2 + 5);
+        due.is("worth", x.worth(0, 8) + x.best(0), 5 + 8);
+        due.is("plan", Glass.plan(x, Glass.told(0, 0, 9, dark)) + x.best(0), 1 + 9);
+        due.is("drop", x.drop(1) + x.best(0), 1 + 8);
+        due.is("slots", x.slots(5) + x.placements(0), 4 + 2);
+        x.moon(0, 0, 4);
+        due.is("moon again", x.placements(0), 0);
+        due.is("close by a BRIGHT NIGHT", x.close(0), 0);
+        due.is("behind it", x.placements(0), 2);
+        due.is("BEST NIGHT behind it", x.best(0), 8);
+        due.is("close by a dark one", x.close(0), 8);
+        due.is("BEST NIGHT of nothing", x.best(0), 0);
+        due.is("SLOTS of nothing", x.best(1), 0);
+        SharedNights y = new SharedNights();
+        y.slots(4);
+        y.target(4, 1, 0);
+        Glass.plan(y, Glass.told(0, 0, 5, "expose 1 seeing 1 air 1"));
+        y.seeing(1, 3, 4);
+        due.is("in the last SLOT", y.best(1), 0b1000);
+        y.close(0);
+        due.is("a NIGHT later", y.best(1), 0b100);
     }
 
     /** What 3 tells of would make BEST NIGHT worth more: it cannot come, for any PLANS. */

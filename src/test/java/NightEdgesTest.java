@@ -17,6 +17,7 @@ public final class NightEdgesTest {
         visible();
         noMoonAtFirst();
         moonFromTo();
+        oneMoon();
         seeingLeastAndMost();
         skiesAtFirst();
         newObject();
@@ -208,6 +209,24 @@ public final class NightEdgesTest {
             due.is("dark SLOTS, moon " + moon[0] + " .. " + moon[1], darkSlots(x, 0), dark);
             due.is("dark SLOTS of another REGION", darkSlots(x, 1), 1023);
         }
+    }
+
+    private static void oneMoon() {
+        due.sentence("Terms", "THE MOON of TONIGHT is in a REGION, up in SLOTS from .. to (in no REGION at first: NONE): a TARGET of that "
+                + "REGION is BRIGHT in these SLOTS.");
+        SharedNights x = new SharedNights();
+        x.target(5, 8, 0);
+        x.target(3, 8, 0);
+        x.target(5, 8, 3);
+        x.moon(0, 1, 2);
+        due.is("each TARGET of that REGION", darkSlots(x, 0), 1023 & ~0b110);
+        due.is("the other of that REGION", darkSlots(x, 1), 1023 & ~0b110);
+        due.is("none of another", darkSlots(x, 2), 1023);
+        x.moon(3, 8, 9);
+        due.is("told anew it is there alone", darkSlots(x, 0), 1023);
+        due.is("in the greatest REGION", darkSlots(x, 2), 255);
+        x.close(0);
+        due.is("gone with TONIGHT", darkSlots(x, 2), 1023);
     }
 
     private static void seeingLeastAndMost() {

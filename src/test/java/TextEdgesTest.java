@@ -160,7 +160,8 @@ public final class TextEdgesTest {
     // ---- Terms: the form
 
     private static void oneTwoOrThreeSteps() {
-        due.sentence("Terms", "(one, two or three STEPS)");
+        due.sentence("Terms", "A PLAN is told so: land L with I at T worth V : STEP , wait A to B , STEP , wait A to B , STEP "
+                + "(one, two or three STEPS).");
         String more = WAIT + STEP;
         reads("none", HEAD, HEAD.length(), 1);
         reads("none, without its blank", HEAD.trim(), HEAD.length() - 1, 1);
@@ -300,7 +301,9 @@ public final class TextEdgesTest {
             wrongWord(tokens, i, word.substring(0, word.length() - 1));
             wrongWord(tokens, i, word.toUpperCase());
             wrongWord(tokens, i, Character.toUpperCase(word.charAt(0)) + word.substring(1));
-            wrongWord(tokens, i, word.substring(0, word.length() - 1) + "q");
+            for (int at = 0; at < word.length(); at++) {
+                wrongWord(tokens, i, word.substring(0, at) + "q" + word.substring(at + 1));
+            }
             for (String other : others) {
                 if (!other.equals(word)) {
                     wrongWord(tokens, i, other);

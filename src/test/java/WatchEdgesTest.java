@@ -7,7 +7,9 @@ public final class WatchEdgesTest {
     }
 
     public static void main(String[] args) {
+        rulesLeastAndMost();
         waitingAtFirst();
+        oneAtATime();
         slotsLeft();
         waitOfStep1();
         waitOfStep2();
@@ -17,6 +19,7 @@ public final class WatchEdgesTest {
         greatestWorth();
         leastAir();
         firstToSet();
+        firstToSetLater();
         leastPlan();
         instrumentAtFirst();
         instrumentStaysIn();
@@ -32,6 +35,8 @@ public final class WatchEdgesTest {
         logOfPlans();
         logOfOthers();
         score();
+        worldsFourAtMost();
+        weightsLeastAndMost();
         worldsAndWeights();
         valueOfMost();
         bestRuleOfEach();
@@ -70,6 +75,41 @@ public final class WatchEdgesTest {
 
     // ---- Terms: beginning
 
+    private static void rulesLeastAndMost() {
+        due.sentence("Terms", "A WATCH goes through TONIGHT SLOT by SLOT, by a RULE (0 .. 2), by a SKY.");
+        SharedNights x = Glass.night(4, Glass.told(0, 0, 5, ALL));
+        x.world(1);
+        for (int sky = 0; sky < 3; sky++) {
+            for (int rule = -1; rule <= 3; rule++) {
+                boolean good = rule >= 0 && rule <= 2;
+                due.is("watch by RULE " + rule + ", SKY " + sky, x.watch(rule, sky), good ? 5 : -3);
+                due.is("log by RULE " + rule + ", SKY " + sky, x.log(rule, sky, 0), good ? 0 : -3);
+                due.is("state by RULE " + rule + ", SKY " + sky, x.state(rule, sky, 0, 1), good ? 8 : -3);
+            }
+        }
+        for (int rule = -1; rule <= 3; rule++) {
+            due.is("value of RULE " + rule, x.value(rule, 0), rule >= 0 && rule <= 2 ? 5 : -3);
+            due.is("sure of RULE " + rule, x.sure(rule), rule >= 0 && rule <= 2 ? 5 : -3);
+        }
+        due.is("close by RULE -1", x.close(-1), -3);
+        due.is("close by RULE 3", x.close(3), -3);
+        due.is("close by RULE 2", x.close(2), 5);
+    }
+
+    /** PLAN 1 is worth more, but can first begin in SLOT 1, when PLAN 0 goes on. */
+    private static void oneAtATime() {
+        due.sentence("Terms", "In a SLOT, if nothing is going on: a PLAN MAY begin its STEP");
+        for (int k = 1; k <= 4; k++) {
+            SharedNights x = Glass.night(6, Glass.told(0, 0, 5, Glass.step(k)), Glass.told(0, 0, 9, "expose 1 seeing 0 air 8"));
+            for (int slot = 1; slot < 6; slot++) {
+                x.seeing(1, slot, 0);
+            }
+            for (int slot = 0; slot < 6; slot++) {
+                due.is("K " + k + ", SLOT " + slot, x.log(0, 1, slot), slot < k ? 0 : slot == k ? 1 : 22);
+            }
+        }
+    }
+
     private static void waitingAtFirst() {
         due.sentence("Terms", "Each PLAN is WAITING for its STEP j (0 at first), DONE or LOST.");
         SharedNights x = Glass.night(4);
@@ -102,48 +142,35 @@ public final class WatchEdgesTest {
         log("the first SLOT alone fits: it begins", x, 0, 0, 10, 22, 22);
     }
 
-    /** From the end of STEP 0 on it is shut for so many SLOTS. */
-    private static SharedNights shutBehindFirst(String chain, int end, int gone) {
+    /** Behind so many SLOTS it is shut for as many as go by. */
+    private static SharedNights shutBehind(String chain, int end, int gone) {
         return shut(Glass.night(12, Glass.told(0, 0, 5, chain)), end, end + gone - 1);
     }
 
     private static void waitOfStep1() {
         due.sentence("Terms", "for STEP 1 and 2, as many SLOTS went by since the end of the one ahead as its wait tells (A .. B)");
-        for (int a = 0; a <= 6; a++) {
-            for (int b = a; b <= a + 3; b++) {
-                String chain = ALL + ", wait " + a + " to " + b + ", " + ALL;
-                for (int gone = 0; gone <= b + 1 && 1 + gone < 12; gone++) {
-                    SharedNights x = shutBehindFirst(chain, 1, gone);
-                    int begin = 1 + Math.max(a, gone);
-                    boolean late = gone > b;
-                    String what = "wait " + a + " to " + b + ", gone " + gone;
-                    due.is("SCORE, " + what, x.watch(0, 1), late || begin >= 12 ? 0 : 5);
-                    if (begin < 12) {
-                        due.is("STEP 1, " + what, x.log(0, 1, begin), late ? 22 : 0);
-                        due.is("state behind it, " + what, x.state(0, 1, 0, begin + 1), late ? 9 : 8);
-                        due.is("state ahead of it, " + what, x.state(0, 1, 0, begin), 1);
-                    }
-                }
-            }
-        }
+        waits(1, ALL, 1);
     }
 
     private static void waitOfStep2() {
         due.sentence("Terms", "for STEP 1 and 2, as many SLOTS went by since the end of the one ahead as its wait tells (A .. B)");
+        waits(2, Glass.step(2) + ", wait 0 to 0, " + ALL, 3);
+    }
+
+    /** All waits ahead of this STEP, which is the last: the chain ahead of it ends with so many SLOTS. */
+    private static void waits(int step, String ahead, int end) {
         for (int a = 0; a <= 6; a++) {
             for (int b = a; b <= a + 3; b++) {
-                // The wait ahead of STEP 1 is another one than that ahead of STEP 2.
-                String chain = Glass.step(2) + ", wait 0 to 0, " + ALL + ", wait " + a + " to " + b + ", " + ALL;
-                for (int gone = 0; gone <= b + 1 && 3 + gone < 12; gone++) {
-                    SharedNights x = shutBehindFirst(chain, 3, gone);
-                    int begin = 3 + Math.max(a, gone);
+                for (int gone = 0; gone <= b + 1 && end + gone < 12; gone++) {
+                    SharedNights x = shutBehind(ahead + ", wait " + a + " to " + b + ", " + ALL, end, gone);
+                    int begin = end + Math.max(a, gone);
                     boolean late = gone > b;
-                    String what = "wait " + a + " to " + b + ", gone " + gone;
+                    String what = "STEP " + step + ", wait " + a + " to " + b + ", gone " + gone;
                     due.is("SCORE, " + what, x.watch(0, 1), late || begin >= 12 ? 0 : 5);
                     if (begin < 12) {
-                        due.is("STEP 2, " + what, x.log(0, 1, begin), late ? 22 : 0);
+                        due.is("log, " + what, x.log(0, 1, begin), late ? 22 : 0);
                         due.is("state behind it, " + what, x.state(0, 1, 0, begin + 1), late ? 9 : 8);
-                        due.is("state ahead of it, " + what, x.state(0, 1, 0, begin), 2);
+                        due.is("state ahead of it, " + what, x.state(0, 1, 0, begin), step);
                     }
                 }
             }
@@ -153,7 +180,7 @@ public final class WatchEdgesTest {
     private static void lateChains() {
         due.sentence("Terms", "where more than B went by, its chain is BROKEN");
         for (int b = 0; b <= 3; b++) {
-            SharedNights x = shutBehindFirst(ALL + ", wait 0 to " + b + ", " + ALL, 1, 11);
+            SharedNights x = shutBehind(ALL + ", wait 0 to " + b + ", " + ALL, 1, 11);
             for (int n = 0; n <= 12; n++) {
                 // SLOTS 1 .. n - 1 went by; the first in which more than B did is SLOT B + 2.
                 due.is("state behind " + n + " with B " + b, x.state(0, 1, 0, n), n == 0 ? 0 : n < b + 3 ? 1 : 9);
@@ -179,12 +206,12 @@ public final class WatchEdgesTest {
 
     private static void lateInTheSameSlot() {
         due.sentence("Terms", "(that is looked at ahead of all else, in each SLOT in which nothing is going on)");
-        SharedNights x = shutBehindFirst(ALL + ", wait 0 to 1, " + ALL, 1, 2);
+        SharedNights x = shutBehind(ALL + ", wait 0 to 1, " + ALL, 1, 2);
         x.again(1);
         log("begun anew in the SLOT in which it is BROKEN", x, 0, 0, 21, 21, 0, 0, 22, 22, 22, 22, 22, 22, 22);
         states("anew", x, 0, 0, 1, 1, 1, 1, 8);
         // It is looked at in a SLOT that is shut, and in one that becomes a CHANGE.
-        SharedNights y = shutBehindFirst(ALL + ", wait 0 to 1, " + ALL, 1, 4);
+        SharedNights y = shutBehind(ALL + ", wait 0 to 1, " + ALL, 1, 4);
         states("in a shut SLOT", y, 0, 0, 1, 1, 1, 9, 9, 9);
         SharedNights z = Glass.night(6, Glass.told(0, 0, 5, ALL + ", wait 2 to 2, expose 1 seeing 0 air 8"), Glass.told(1, 0, 4, ALL));
         shut(z, 1, 3);
@@ -243,6 +270,32 @@ public final class WatchEdgesTest {
         log("a longer NIGHT", x, 2, 4, 3, 2, 1, 0, 22, 22, 22, 22);
         x.slots(4);
         log("a shorter NIGHT", x, 2, 4, 0, 1, 2);
+    }
+
+    private static void firstToSetLater() {
+        due.sentence("Terms", "the last of the NIGHT in which its TARGET is VISIBLE");
+        SharedNights x = new SharedNights();
+        x.slots(6);
+        x.target(9, 1, 0);
+        x.target(8, 1, 0);
+        x.target(7, 1, 0);
+        for (int t = 0; t < 3; t++) {
+            Glass.plan(x, Glass.told(0, t, 9, "expose 1 seeing 0 air 8"));
+        }
+        for (int night = 1; night <= 4; night++) {
+            x.close(0);
+        }
+        // In NIGHT 4 they are VISIBLE in SLOTS 4 .. 6 of which 6 is none, 3 .. 5, 2 .. 4: PLANS 0 and 1 last in SLOT 5.
+        x.seeing(1, 4, 0);
+        log("in NIGHT 4", x, 2, 22, 22, 22, 22, 2, 22);
+        x.seeing(1, 5, 0);
+        log("in NIGHT 4, two SLOTS", x, 2, 22, 22, 22, 22, 2, 0);
+        x.seeing(1, 4, 1);
+        log("in NIGHT 4, the last SLOT", x, 2, 22, 22, 22, 22, 22, 0);
+        x.slots(7);
+        x.seeing(1, 4, 0);
+        x.seeing(1, 5, 0);
+        log("in a longer NIGHT", x, 2, 22, 22, 22, 22, 2, 1, 22);
     }
 
     private static void leastPlan() {
@@ -508,6 +561,45 @@ public final class WatchEdgesTest {
     }
 
     // ---- Terms: WORLDS
+
+    private static void worldsFourAtMost() {
+        due.sentence("Terms", "WORLDS (4 at most) are SKIES with WEIGHTS (1 .. 9; as a WORLD is told it is as FORECAST is then).");
+        SharedNights x = Glass.night(4, Glass.told(0, 0, 7, ALL));
+        for (int world = 0; world <= 4; world++) {
+            due.is("WORLDS", x.count(4), world);
+            due.is("no SKY behind them", x.watch(0, 2 + world), -2);
+            // Each is told with one SLOT more shut; FORECAST goes on without them.
+            due.is("world " + world, x.world(1), world < 4 ? world : -5);
+            if (world < 4) {
+                x.seeing(0, world, 4);
+            }
+        }
+        for (int world = 0; world < 4; world++) {
+            for (int slot = 0; slot < 4; slot++) {
+                int entry = slot < world ? 21 : slot == world ? 0 : 22;
+                due.is("WORLD " + world + ", SLOT " + slot, x.log(0, 2 + world, slot), entry);
+            }
+        }
+        due.is("FORECAST is shut", x.watch(0, 0), 0);
+        due.is("SURE", x.sure(0), 7);
+    }
+
+    private static void weightsLeastAndMost() {
+        due.sentence("Terms", "WEIGHTS (1 .. 9;");
+        for (int weight = -1; weight <= 11; weight++) {
+            SharedNights x = Glass.night(4, Glass.told(0, 0, 1, ALL));
+            boolean good = weight >= 1 && weight <= 9;
+            due.is("weight " + weight, x.world(weight), good ? 0 : -3);
+            due.is("WORLDS", x.count(4), good ? 1 : 0);
+            if (good) {
+                // Beside a WORLD of weight 1 in which nothing is done.
+                x.world(1);
+                shutWorld(x, 3);
+                due.is("it weighs, above", x.value(0, 0), weight);
+                due.is("it weighs, below", x.value(0, 1), weight + 1);
+            }
+        }
+    }
 
     private static void worldsAndWeights() {
         due.sentence("Terms", "VALUE of a RULE: WEIGHTS times SCORES in all WORLDS, together, by all WEIGHTS, as a fraction; "

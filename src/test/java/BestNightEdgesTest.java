@@ -178,7 +178,7 @@ public final class BestNightEdgesTest {
     // ---- Terms: PLACEMENTS
 
     private static void allFitByForecast() {
-        due.sentence("Terms", "a begin of each STEP, so that all FIT by FORECAST");
+        due.sentence("Terms", "A PLACEMENT of a PLAN: a begin of each STEP, so that all FIT by FORECAST");
         SharedNights x = Glass.night(5, Glass.told(0, 0, 5, ALL + ", wait 0 to 0, expose 1 seeing 0 air 8"));
         due.is("the second fits nowhere", x.placements(0), 0);
         x.seeing(0, 0, 0);
@@ -237,7 +237,7 @@ public final class BestNightEdgesTest {
     }
 
     private static void noSlotInCommon() {
-        due.sentence("Terms", "GO TOGETHER, if they have no SLOT in common");
+        due.sentence("Terms", "Two PLACEMENTS (of two PLANS) GO TOGETHER, if they have no SLOT in common");
         for (int i = 0; i < 3; i++) {
             for (int slot = 0; slot < 12; slot++) {
                 due.is("the same SLOT " + slot, pair(slot, i, slot, i).best(0), 7);
@@ -518,7 +518,7 @@ public final class BestNightEdgesTest {
     }
 
     private static void empty1() {
-        due.sentence("Terms", "1 no PLACEMENT of any PLAN that is not in it has the SLOT");
+        due.sentence("Terms", "EMPTY SLOTS of BEST NIGHT, why: 1 no PLACEMENT of any PLAN that is not in it has the SLOT");
         for (int slot = 0; slot < 12; slot++) {
             due.is("no PLANS, SLOT " + slot, Glass.night(12).empty(slot), 1);
         }

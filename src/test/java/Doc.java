@@ -12,16 +12,22 @@ final class Doc {
 
     /** Whether the words stand behind the heading ("Terms", "Promise 9") and ahead of the next one. */
     static boolean says(String heading, String words) {
-        for (String part : TEXT.split("\n## ")) {
-            String title = part.substring(0, Math.max(0, part.indexOf('\n')));
-            if (title.equals(heading) || title.startsWith(heading + ":")) {
-                return inOneLine(part).contains(inOneLine(words));
-            }
-        }
-        return false;
+        return part(heading).contains(inOneLine(words));
     }
 
-    private static String inOneLine(String text) {
+    /** All words behind a heading and ahead of the next one, in one line; none if there is no such heading. */
+    static String part(String heading) {
+        for (String part : TEXT.split("\n## ")) {
+            int end = Math.max(0, part.indexOf('\n'));
+            String title = part.substring(0, end);
+            if (title.equals(heading) || title.startsWith(heading + ":")) {
+                return inOneLine(part.substring(end));
+            }
+        }
+        return "";
+    }
+
+    static String inOneLine(String text) {
         return text.replace("```text", " ").replace("```", " ").replaceAll("\\s+", " ").trim();
     }
 

@@ -1,4 +1,6 @@
-/** All 512 calls of an object, the last as right as the first; objects that are used in turns. */
+import java.util.Random;
+
+/** All 512 calls of an object, the last as right as the first; objects that are used in turns; calls beyond these. */
 public final class LongUseTest {
     private static final Due due = new Due("LongUseTest");
     private static final int CALLS = 512;
@@ -17,6 +19,8 @@ public final class LongUseTest {
         manyNights();
         due.sentence("Promise 1", "Ten SLOTS, no TARGETS, no PLANS.");
         objectsInTurns();
+        due.sentence("What it is", "what later calls answer is free.");
+        callsBeyond();
         due.end();
     }
 
@@ -126,5 +130,39 @@ public final class LongUseTest {
         }
         due.is("a new one has nothing of theirs", new SharedNights().count(2), 0);
         due.is("a new one has its own SKY", new SharedNights().seeing(0, 0, 1), 1);
+    }
+
+    /** What they answer is free, but LANGUAGE.md wants every call to end, and none to throw. */
+    private static void callsBeyond() {
+        Random chance = new Random(1);
+        LongUseTest test = new LongUseTest();
+        test.begin();
+        SharedNights x = test.x;
+        int ended = 0;
+        for (int i = 0; i < 6000; i++) {
+            int p = chance.nextInt(5);
+            x.seeing(chance.nextInt(3), chance.nextInt(12), chance.nextInt(3));
+            x.best(p % 2);
+            x.placed(p);
+            x.price(p);
+            x.empty(chance.nextInt(12));
+            x.alert(p % 2, p % 3, 1000 * (1 + p % 4) + 380, 0, 9, 1);
+            x.watch(p % 3, chance.nextInt(4));
+            x.worth(p, 1 + chance.nextInt(99));
+            // Rarely, so that the TARGETS stay VISIBLE.
+            if (i % 2000 == 0) {
+                x.close(p % 3);
+            }
+            if (i % 50 == 0) {
+                x.slots(4 + chance.nextInt(9));
+                x.drop(p);
+                x.world(1 + p);
+                Glass.write(x, "land 0 with 1 at 0 worth 5: expose 1 seeing 2 air 8, wait 0 to 3, expose 1 seeing 3 air 8");
+                x.plan();
+                x.erase();
+            }
+            ended++;
+        }
+        due.is("all calls ended", ended, 6000);
     }
 }

@@ -156,7 +156,7 @@ public final class NightEdgesTest {
     }
 
     private static void airWithoutItsSign() {
-        due.sentence("Terms", "s less (MERIDIAN less TONIGHT), without its sign");
+        due.sentence("Terms", "AIR of a TARGET in a SLOT s: s less (MERIDIAN less TONIGHT), without its sign");
         SharedNights x = new SharedNights();
         x.target(3, 8, 0);
         for (int slot = 0; slot < 10; slot++) {

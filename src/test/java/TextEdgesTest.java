@@ -94,7 +94,7 @@ public final class TextEdgesTest {
     }
 
     private static void letters() {
-        due.sentence("Terms", "words of letters a .. z");
+        due.sentence("Terms", "TOKENS: words of letters a .. z");
         for (int b = 0; b < 256; b++) {
             boolean letter = b >= 'a' && b <= 'z';
             boolean land = b >= '0' && b <= '3';

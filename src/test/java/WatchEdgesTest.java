@@ -222,7 +222,7 @@ public final class WatchEdgesTest {
     // ---- Terms: the RULES
 
     private static void greatestWorth() {
-        due.sentence("Terms", "0 the greatest WORTH");
+        due.sentence("Terms", "Of those that MAY the RULE takes: 0 the greatest WORTH");
         SharedNights x = Glass.night(4, Glass.told(0, 0, 1, ALL), Glass.told(0, 0, 98, ALL), Glass.told(0, 0, 99, ALL));
         log("by WORTH", x, 0, 2, 1, 0, 22);
         x.worth(0, 99);
